@@ -477,6 +477,10 @@ public final class PromiseTests {
         enter(y, "A = B");
         y.read();
         is("number of an equation without freedom", NO_SUCH, () -> y.number(0, 0));
+        enter(y, "A + A + B = B");
+        y.read();
+        is("number of a formula that a base leaves out", 0L, () -> y.number(0, 2));
+        is("number of another free formula", 0L, () -> y.number(1, 1));
         FormulaScales great = after("A40 + A39B40 + B39C40 + C39D40 + D39E40 = E");
         is("a great number, the free one", 102400000L, () -> great.number(0, 5));
         is("a great number, another", 2560000L, () -> great.number(0, 4));
@@ -521,6 +525,9 @@ public final class PromiseTests {
         is("written far behind", -1, () -> x.written(Integer.MAX_VALUE));
         is("written(-1)", -1, () -> x.written(-1));
         is("written far before", -1, () -> x.written(Integer.MIN_VALUE));
+        enter(x, "B=B");
+        x.read();
+        is("written of the latest equation", "B = B", () -> line(x));
         FormulaScales none = after("A = B");
         is("written, none", STATE, () -> none.written(0));
         FormulaScales mixed = after("A + B = C + A");
