@@ -477,10 +477,11 @@ public final class PromiseTests {
         enter(y, "A = B");
         y.read();
         is("number of an equation without freedom", NO_SUCH, () -> y.number(0, 0));
-        enter(y, "A + A + B = B");
-        y.read();
-        is("number of a formula that a base leaves out", 0L, () -> y.number(0, 2));
-        is("number of another free formula", 0L, () -> y.number(1, 1));
+        FormulaScales z = after("A + B + C = ABC");
+        enter(z, "A + A + B = B");
+        z.read();
+        is("number of a leading formula without a share", 0L, () -> z.number(0, 2));
+        is("number of another free formula", 0L, () -> z.number(0, 3));
         FormulaScales great = after("A40 + A39B40 + B39C40 + C39D40 + D39E40 = E");
         is("a great number, the free one", 102400000L, () -> great.number(0, 5));
         is("a great number, another", 2560000L, () -> great.number(0, 4));
