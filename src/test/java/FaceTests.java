@@ -25,18 +25,18 @@ public final class FaceTests {
         due.add("new()");
         for (Method m : FormulaScales.class.getDeclaredMethods()) {
             if (!Modifier.isPrivate(m.getModifiers())) {
-                members.add(m.getReturnType() + " " + m.getName() + listed(m.getParameterTypes()));
+                members.add(shown(m.getModifiers()) + m.getReturnType() + " " + m.getName() + listed(m.getParameterTypes()));
             } else if (Arrays.toString(METHODS).contains(" " + m.getName() + "(")) {
                 members.add("private " + m.getName());
             }
         }
         for (Field f : FormulaScales.class.getDeclaredFields()) {
             if (!Modifier.isPrivate(f.getModifiers())) {
-                members.add(f.getName());
+                members.add(shown(f.getModifiers()) + f.getName());
             }
         }
         for (Constructor<?> c : FormulaScales.class.getDeclaredConstructors()) {
-            members.add("new" + listed(c.getParameterTypes()));
+            members.add(shown(c.getModifiers()) + "new" + listed(c.getParameterTypes()));
         }
         boolean open = !Modifier.isFinal(FormulaScales.class.getModifiers());
         if (open || !members.equals(due)) {
@@ -44,6 +44,10 @@ public final class FaceTests {
             System.exit(1);
         }
         System.out.println("the face is as due");
+    }
+
+    private static String shown(int modifiers) {
+        return Modifier.isPublic(modifiers) ? "" : "hidden ";
     }
 
     private static String listed(Class<?>[] types) {

@@ -1,17 +1,6 @@
 /** For each promise of the document: ordinary inputs, the edges that it names, and wrong inputs. */
-public final class PromiseTests {
-    private static final int S = FormulaScales.SIGN, N = FormulaScales.NUMBER, D = FormulaScales.DEEP;
-    private static final int M = FormulaScales.MANY, T = FormulaScales.TOO_MUCH;
-    private static final String NO_SUCH = "NoSuchElementException", STATE = "IllegalStateException";
-    private static final String ARGUMENT = "IllegalArgumentException", SUPPORT = "UnsupportedOperationException";
+public final class PromiseTests extends Probe {
     private static final String GREAT = "A40 + B39C40 + D39E40 = A39B40 + C39D40 + E39";
-
-    private static int checks = 0;
-    private static int wrong = 0;
-
-    private interface Call {
-        Object answer();
-    }
 
     public static void main(String[] args) {
         newObject();
@@ -37,80 +26,7 @@ public final class PromiseTests {
         solutions();
         nothingAfterAFault();
         equationOutlivesTyping();
-        System.out.println((checks - wrong) + " checks hold, " + wrong + " do not");
-        if (wrong != 0) {
-            System.exit(1);
-        }
-    }
-
-    private static void is(String what, Object want, Call call) {
-        checks++;
-        Object got;
-        try {
-            got = call.answer();
-        } catch (RuntimeException e) {
-            got = e.getClass().getSimpleName();
-        }
-        if (!want.equals(got)) {
-            wrong++;
-            System.out.println(what + " answered " + got + ", due is " + want);
-        }
-    }
-
-    private static long packed(String characters) {
-        long more = 0;
-        for (int i = 0; i < characters.length(); i++) {
-            more |= (characters.charAt(i) & 255L) << (8 * i);
-        }
-        return more;
-    }
-
-    private static void enter(FormulaScales x, String text) {
-        for (int i = 0; i < text.length(); i += 8) {
-            x.type(packed(text.substring(i, Math.min(i + 8, text.length()))));
-        }
-    }
-
-    private static FormulaScales after(String text) {
-        FormulaScales x = new FormulaScales();
-        enter(x, text);
-        x.read();
-        return x;
-    }
-
-    private static void reads(String text, int answer, int at) {
-        FormulaScales x = new FormulaScales();
-        enter(x, text);
-        is("read of '" + text + "'", answer, x::read);
-        is("at of '" + text + "'", at, x::at);
-    }
-
-    private static void reads(String text, int formulas) {
-        reads(text, formulas, -1);
-    }
-
-    private static String line(FormulaScales x) {
-        StringBuilder line = new StringBuilder();
-        for (int i = 0; x.written(i) != -1; i++) {
-            line.append((char) x.written(i));
-        }
-        return line.toString();
-    }
-
-    private static void hasNoEquation(FormulaScales x) {
-        is("state without an equation", FormulaScales.NONE_YET, x::state);
-        is("freedom without an equation", FormulaScales.NONE_YET, x::freedom);
-        is("formulas without an equation", 0, x::formulas);
-        is("kinds without an equation", 0, x::kinds);
-        is("name without an equation", NO_SUCH, () -> x.name(0));
-        is("has without an equation", NO_SUCH, () -> x.has(0, 0));
-        is("product without an equation", NO_SUCH, () -> x.product(0));
-        is("free without an equation", NO_SUCH, () -> x.free(0));
-        is("number without an equation", NO_SUCH, () -> x.number(0, 0));
-        is("weight without an equation", NO_SUCH, () -> x.weight(0));
-        is("written without an equation", STATE, () -> x.written(0));
-        is("written(-1) without an equation", STATE, () -> x.written(-1));
-        is("solves without an equation", STATE, () -> x.solves(0, 0, 0, 0, 0));
+        end();
     }
 
     private static void newObject() {
@@ -142,10 +58,8 @@ public final class PromiseTests {
             y.type(packed("HHHHHHHH"));
         }
         is("type of five more than 96", SUPPORT, () -> y.type(packed("HHHHH")));
-        is("type of a wrong one beyond 100", ARGUMENT, () -> y.type(packed("HHHHHHH\1")));
         is("type up to 100", 100, () -> y.type(packed("HHHH")));
         is("type of one more than 100", SUPPORT, () -> y.type(packed("H")));
-        is("type of a wrong one at 100", ARGUMENT, () -> y.type(1));
         is("type of none at 100", 100, () -> y.type(0));
         is("read of a text of 100", T, y::read);
         is("at of a text of 100", 0, y::at);
