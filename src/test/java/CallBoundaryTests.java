@@ -68,6 +68,15 @@ public final class CallBoundaryTests extends Probe {
             is("refused call " + i, STATE, () -> z.solves(0, 0, 0, 0, 0));
         }
         is("call 512 after refused ones", 8, () -> z.type(packed("A = A2  ")));
+        FormulaScales often = new FormulaScales();
+        for (int i = 1; i <= 256; i++) {
+            is("type before read " + i, 8, () -> often.type(packed("AB=A2+B2")));
+            is("read " + i, 3, often::read);
+        }
+        FormulaScales empty = new FormulaScales();
+        for (int i = 1; i <= 512; i++) {
+            is("read of an empty text, call " + i, S, empty::read);
+        }
     }
 
     private static void newTextIsEmpty() {
@@ -317,6 +326,11 @@ public final class CallBoundaryTests extends Probe {
             is("the greatest", NO_SUCH, () -> x.name(MOST));
             is("the least", NO_SUCH, () -> x.name(LEAST));
         }
+        // An earlier equation has names where the charge stands now.
+        FormulaScales x = after("ABCDE=A");
+        readAnew(x, "B^+=B");
+        is("the charge behind an earlier equation", 0, () -> x.name(1));
+        is("an earlier kind", NO_SUCH, () -> x.name(2));
     }
 
     private static void hasOfNoSuchFormulaOrKind() {

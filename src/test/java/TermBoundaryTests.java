@@ -511,6 +511,10 @@ public final class TermBoundaryTests extends Probe {
         reads("A=000", N, 2);
         reads("A  = 0A", N, 5);
         reads("A=A99", T, 2);
+        reads("ABCDE=0F", N, 6);
+        reads("ABCDE=A.0F", N, 8);
+        reads("ABCDE=(A)0F", N, 9);
+        reads("(((A0(A", N, 4);
     }
 
     private static void digitsElsewhereAreASign() {
