@@ -14,7 +14,7 @@ import java.util.regex.Matcher;
 import java.util.regex.Pattern;
 import java.util.stream.Stream;
 
-/** Follows README.md word for word in a copy of the project, and holds what it says against what is. */
+/** Follows README.md's program and commands in a copy of the project, and asks the texts of its table. */
 public final class ReadmeTests extends Probe {
     private static final Pattern BLOCK = Pattern.compile("^```(\\w+)\n(.*?)^```$", Pattern.MULTILINE | Pattern.DOTALL);
     private static final Pattern ROW = Pattern.compile(
